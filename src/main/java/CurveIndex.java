@@ -230,9 +230,9 @@ public final class CurveIndex {
     }
 
     /**
-     * The turn begins on every side in state 0: what the document says of a
-     * side of 2 s speaks of the smaller side's key, so from the top down each
-     * exchange of x and y is carried along in the state.
+     * The document tells a key by that of another cell on a smaller side. Going
+     * down from the whole grid, the state remembers how that cell lies to (x, y),
+     * so that the bits of x and y can be read as they are.
      */
     private int keyOf(int curve, int x, int y) {
         int state = firstState(curve);
