@@ -20,6 +20,7 @@ public final class CurveIndexPromisesTest {
         beginRefused();
         keyOfTheWeave();
         keyOfTheTurn();
+        keyOfTheTurnOnASideOf16();
         keyRefused();
         cellIsTheOtherWay();
         cellRefused();
@@ -104,7 +105,9 @@ public final class CurveIndexPromisesTest {
         due("nth(0, 0)", index.nth(0, 0), -1);
         due("nearest(0, 0)", index.nearest(0, 0), -1);
         index.put(0, 0, 4);
-        index.put(1, 1, 8);
+        index.put(0, 1, 8);
+        index.put(1, 0, 16);
+        index.put(1, 1, 32);
         due("inside()", index.inside(), 1);
         due("sum()", index.sum(), 4);
         due("many() of another object", new CurveIndex().many(), 0);
@@ -125,8 +128,12 @@ public final class CurveIndexPromisesTest {
             due("many()", index.many(), 0);
             due("at(1, 1)", index.at(1, 1), 0);
             due("nearest(0, 0)", index.nearest(0, 0), -1);
+            due("inside()", index.inside(), 0);
+            due("nth(0, 0)", index.nth(0, 0), -1);
+            due("nth(1, 0)", index.nth(1, 0), -1);
             index.put(0, 0, 3);
-            index.put(1, 1, 5);
+            index.put(0, 1, 4);
+            index.put(1, 0, 5);
             due("sum() of the cell (0, 0)", index.sum(), 3);
             due("run(0, 0, 1)", index.run(0, 0, 1), 0);
         }
@@ -184,6 +191,36 @@ public final class CurveIndexPromisesTest {
             // The curve comes from (0, s) and enters the third quarter at its own (0, 0).
             due("key(1, s, s)", index.key(1, side / 2, side / 2), 1 << 2 * n - 1);
         }
+    }
+
+    /** Any table or rule that is wrong in one of the turn's four ways to lie breaks the line or its form. */
+    private static void keyOfTheTurnOnASideOf16() {
+        promise = "3 key, curve 1, side 16";
+        CurveIndex index = grid(4);
+        int[] cells = new int[256];
+        for (int x = 0; x < 16; x++) {
+            for (int y = 0; y < 16; y++) {
+                int key = index.key(1, x, y);
+                due("key(1, " + x + ", " + y + ")", key, turn(16, x, y));
+                cells[key & 255] = 16 * x + y;
+            }
+        }
+        for (int key = 1; key < 256; key++) {
+            int across = Math.abs(cells[key] / 16 - cells[key - 1] / 16);
+            int along = Math.abs(cells[key] % 16 - cells[key - 1] % 16);
+            due("the step to key " + key, across + along, 1);
+        }
+    }
+
+    private static int turn(int side, int x, int y) {
+        int s = side / 2;
+        if (side == 1) {
+            return 0;
+        }
+        if (x < s) {
+            return y < s ? turn(s, y, x) : s * s + turn(s, x, y - s);
+        }
+        return y < s ? 3 * s * s + turn(s, s - 1 - y, 2 * s - 1 - x) : 2 * s * s + turn(s, x - s, y - s);
     }
 
     private static void keyRefused() {
