@@ -166,9 +166,6 @@ public final class CurveIndex {
             return NONE;
         }
         RunWalk walk = walkRuns(curve, i);
-        if (i >= walk.count) {
-            return NONE;
-        }
         return which == 0 ? walk.wantedFirst : walk.wantedLast;
     }
 
@@ -370,7 +367,8 @@ public final class CurveIndex {
     /**
      * A walk along a curve that meets the window's keys from the least on and
      * joins them to runs. It counts them and keeps only the one that is
-     * wanted, so that no row of runs need be held.
+     * wanted (its keys stay NONE when there is none such), so that no row of
+     * runs need be held.
      */
     private static final class RunWalk {
         private final Frame frame;
