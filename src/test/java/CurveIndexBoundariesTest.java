@@ -3,7 +3,7 @@ import java.util.List;
 
 /**
  * Each sentence of the document that names a boundary case: the last value that is still good, the
- * first that is not, and, where a call is refused, that all that can be seen of the object is as it was.
+ * first that is not, and, where a call is refused, that the object looks as it would without the call.
  */
 public final class CurveIndexBoundariesTest {
     private static final int LEAST = Integer.MIN_VALUE;
@@ -1015,9 +1015,9 @@ public final class CurveIndexBoundariesTest {
         return 1L << 2 * n;
     }
 
-    // Looks at all that can be seen
+    // Looks at an object
 
-    /** The call answers what is due, and all that can be seen after it is what is seen without it. */
+    /** The call answers what is due, and the looks after it see what they see without it. */
     private static void stays(State state, String call, Call refused, long want) {
         List<Long> without = look(state.n, state.points, state, index -> 0, 0);
         List<Long> with = look(state.n, state.points, state, index -> answers(call, refused.on(index), want), 0);
@@ -1043,6 +1043,7 @@ public final class CurveIndexBoundariesTest {
         return seen;
     }
 
+    /** Every point of a few; of 500 a sample, for a point that came or went moves all the places after its own. */
     private static List<Call> looks(int n, int points) {
         int last = (1 << n) - 1;
         List<Call> looks = new ArrayList<>();
