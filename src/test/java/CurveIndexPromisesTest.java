@@ -1,7 +1,6 @@
-import java.lang.reflect.Constructor;
-import java.lang.reflect.Field;
-import java.lang.reflect.Method;
+import java.lang.reflect.Member;
 import java.lang.reflect.Modifier;
+import java.util.Arrays;
 import java.util.TreeSet;
 
 /** The document's promises one by one, with answers worked out by hand from its words. */
@@ -16,6 +15,7 @@ public final class CurveIndexPromisesTest {
     public static void main(String[] args) {
         theFace();
         aNewObject();
+        objectsShareNothing();
         begin();
         beginRefused();
         keyOfTheWeave();
@@ -66,27 +66,52 @@ public final class CurveIndexPromisesTest {
 
     private static void theFace() {
         promise = "the public face";
-        TreeSet<String> face = new TreeSet<>();
-        for (Field field : CurveIndex.class.getDeclaredFields()) {
-            if (!Modifier.isPrivate(field.getModifiers())) {
-                face.add(field.getName());
-            }
-        }
-        for (Method method : CurveIndex.class.getDeclaredMethods()) {
-            if (!Modifier.isPrivate(method.getModifiers())) {
-                face.add(method.getName() + method.getParameterCount());
-            }
-        }
-        for (Constructor<?> constructor : CurveIndex.class.getDeclaredConstructors()) {
-            face.add("new" + constructor.getParameterCount());
-        }
-        String want = "[NONE, at2, begin1, cell2, inside0, key3, many0, nearest2, new0, nth2, put3, run3, runs1, sum0, take2, window4]";
-        if (!face.toString().equals(want)) {
-            System.out.println(face + ", due is " + want);
-        }
-        due("the names of its members", face.toString().equals(want), true);
-        due("final", Modifier.isFinal(CurveIndex.class.getModifiers()), true);
+        dueFace("public final class CurveIndex", Modifier.toString(CurveIndex.class.getModifiers()), "public final");
+        dueFace("what it extends", CurveIndex.class.getSuperclass().getName(), "java.lang.Object");
+        due("interfaces", CurveIndex.class.getInterfaces().length, 0);
         due("NONE", CurveIndex.NONE, -1);
+        TreeSet<String> want = new TreeSet<>(Arrays.asList(
+            "public static final int CurveIndex.NONE",
+            "public CurveIndex()",
+            "public boolean CurveIndex.begin(int)",
+            "public int CurveIndex.key(int,int,int)",
+            "public int CurveIndex.cell(int,int)",
+            "public int CurveIndex.put(int,int,int)",
+            "public int CurveIndex.take(int,int)",
+            "public int CurveIndex.at(int,int)",
+            "public int CurveIndex.many()",
+            "public boolean CurveIndex.window(int,int,int,int)",
+            "public int CurveIndex.inside()",
+            "public int CurveIndex.sum()",
+            "public int CurveIndex.nth(int,int)",
+            "public int CurveIndex.runs(int)",
+            "public int CurveIndex.run(int,int,int)",
+            "public int CurveIndex.nearest(int,int)"));
+        TreeSet<String> got = new TreeSet<>();
+        addVisible(got, CurveIndex.class.getDeclaredFields());
+        addVisible(got, CurveIndex.class.getDeclaredConstructors());
+        addVisible(got, CurveIndex.class.getDeclaredMethods());
+        dueFace("the members that are not private", String.join("; ", got), String.join("; ", want));
+        for (Class<?> inner : CurveIndex.class.getDeclaredClasses()) {
+            int modifiers = inner.getModifiers();
+            boolean isHidden = !Modifier.isPublic(modifiers) && !Modifier.isProtected(modifiers);
+            due(inner.getName() + " is static and not public", isHidden && Modifier.isStatic(modifiers), true);
+        }
+    }
+
+    private static void addVisible(TreeSet<String> face, Member[] members) {
+        for (Member member : members) {
+            if (!Modifier.isPrivate(member.getModifiers())) {
+                face.add(member.toString());
+            }
+        }
+    }
+
+    private static void dueFace(String what, String got, String want) {
+        if (!got.equals(want)) {
+            System.out.println(got + "\ndue is " + want);
+        }
+        due(what, got.equals(want), true);
     }
 
     private static void aNewObject() {
@@ -111,6 +136,32 @@ public final class CurveIndexPromisesTest {
         due("inside()", index.inside(), 1);
         due("sum()", index.sum(), 4);
         due("many() of another object", new CurveIndex().many(), 0);
+    }
+
+    /** Two objects by turns: what is done to the one is not seen in the other. */
+    private static void objectsShareNothing() {
+        promise = "1 a new object, beside another one";
+        CurveIndex one = grid(4);
+        CurveIndex other = grid(2);
+        one.put(15, 15, 7);
+        one.window(8, 8, 15, 15);
+        other.put(3, 3, 5);
+        other.put(0, 0, 6);
+        due("many()", one.many(), 1);
+        due("many() of the other", other.many(), 2);
+        due("sum()", one.sum(), 7);
+        due("sum() of the other", other.sum(), 6);
+        due("nth(0, 0)", one.nth(0, 0), 255);
+        due("nth(0, 0) of the other", other.nth(0, 0), 0);
+        due("nearest(0, 0)", one.nearest(0, 0), 255);
+        due("nearest(3, 2) of the other", other.nearest(3, 2), 15);
+        due("run(1, 0, 0)", one.run(1, 0, 0), 128);
+        due("run(1, 0, 0) of the other", other.run(1, 0, 0), 0);
+        due("key(1, 15, 0)", one.key(1, 15, 0), 255);
+        due("key(1, 15, 0) of the other", other.key(1, 15, 0), -1);
+        other.begin(1);
+        due("at(15, 15) when the other has begun anew", one.at(15, 15), 7);
+        due("inside() when the other has begun anew", one.inside(), 1);
     }
 
     private static void begin() {
